@@ -293,6 +293,11 @@ public final class ActBoundTests {
         turned.turn(0);
         Checks.due("sort of what is sorted", turned.sort(0), 0);
         Checks.dueRow(turned, 0, "5 5", "1 0");
+        Runweaver greater = Checks.with(0, 4, 5, 5);
+        greater.turn(0);
+        // at place 1 the same key stands then, with a greater stamp
+        Checks.due("sort, if a STAMP becomes greater", greater.sort(0), 3);
+        Checks.dueRow(greater, 0, "4 5 5", "0 2 1");
     }
 
     // ==== promise 13: copy

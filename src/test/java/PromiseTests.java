@@ -98,7 +98,7 @@ public final class PromiseTests {
         void run(Runweaver x, int row, int place);
     }
 
-    /** There are the places from 0 to one less than how many items there are; less the last one, if there must be a next one. */
+    /** Places go from 0 to one less than how many items there are; less the last one, if there must be a next one. */
     private static void duePlacesOnly(String what, boolean isWithNext, PlaceCall call) {
         for (int row = 0; row < 4; row++) {
             int r = row;
