@@ -9,7 +9,8 @@ import java.util.Map;
 /** Long runs of drawn calls, each answered by the class and by a slow model that is made another way. */
 public final class ModelTests {
     private static final int OBJECTS = 400;
-    private static final int CALLS = 500;
+    // as many as an object is used for
+    private static final int CALLS = 512;
     private static final String RANGE = "throws.IndexOutOfBoundsException";
     private static final String ARGUMENT = "throws.IllegalArgumentException";
 
@@ -629,7 +630,7 @@ public final class ModelTests {
             Model model = new Model();
             int wide = new int[] {3, 20, 999}[object % 3];
             for (int call = 0; call < CALLS && wrong < 20; call++) {
-                String called = call % 100 == 99 ? "digest" : drawnCall(object);
+                String called = call % 100 == 99 || call == CALLS - 1 ? "digest" : drawnCall(object);
                 int[] numbers = drawnNumbers(model, called, wide);
                 Object got = answer(x, called, numbers);
                 Object want = model.answer(called, numbers);
